@@ -1,0 +1,44 @@
+/** Runs the tests of the project; ends with exit code 1 if an answer is not as due. */
+public final class AllTests {
+    private static final long LONGEST_MILLIS = 300_000;
+
+    private AllTests() {
+    }
+
+    public static void main(String[] args) {
+        watch();
+        run("subscribers", SubscribersTest::run);
+        run("events and ticks", EventsAndTicksTest::run);
+        run("values", ValuesTest::run);
+        run("what if", WhatIfTest::run);
+        run("commands", CommandsTest::run);
+        run("undo and digest", UndoAndDigestTest::run);
+        run("model", ModelTest::run);
+        System.out.println("answers: " + Due.passed + " as due, " + Due.failed + " not");
+        System.exit(Due.failed == 0 ? 0 : 1);
+    }
+
+    private static void run(String name, Runnable tests) {
+        Due.topic(name);
+        try {
+            tests.run();
+        } catch (RuntimeException | Error e) {
+            Due.fail("stopped by " + e);
+        }
+    }
+
+    /** A call that does not end must fail the run, not hold it up. */
+    private static void watch() {
+        Thread watchdog = new Thread(() -> {
+            try {
+                Thread.sleep(LONGEST_MILLIS);
+            } catch (InterruptedException e) {
+                return;
+            }
+            System.out.println("the tests did not end in time");
+            Runtime.getRuntime().halt(1);
+        });
+        watchdog.setDaemon(true);
+        watchdog.start();
+    }
+}
