@@ -332,7 +332,7 @@ public final class CellEvents {
 
         void copyFrom(World other) {
             System.arraycopy(other.settings, 0, settings, 0, SETTINGS);
-            // Those not there yet are copied too: a subscriber that an undo takes back must be as new.
+            // The unused ones of subscribers and events are copied too: what an undo takes back must be as new.
             for (int number = 0; number < SUBSCRIBER_LIMIT; number++) {
                 subscribers[number].copyFrom(other.subscribers[number]);
             }
@@ -948,8 +948,6 @@ public final class CellEvents {
             times[event] = time;
             published[event] = tick;
             routed[event] = reached;
-            // An event that an undo took back may have stood here.
-            delivered[event] = 0;
             count++;
             return event;
         }

@@ -10,6 +10,7 @@ final class CommandsTest {
         commandsDoAsTheCalls();
         noFault();
         faults();
+        faultsBeforeAnOldText();
         faultInTheLastByte();
         stopsAtTheFirstThatWouldThrow();
         everyExceptionStops();
@@ -190,6 +191,16 @@ final class CommandsTest {
         fault("quitt 0;", 0);
         fault("later 0 0 0;", 0);
         fault("zzzzzzzzzzzzzzzzzzzzzzzzzzzz", 0);
+        fault("xoin 0 0 0;", 0);
+        fault("so 0 6;", 0);
+        fault("suit 0;", 0);
+        fault("avent 0 0;", 0);
+        fault("gate 0 0 0;", 0);
+        fault("get 0 1;", 0);
+        fault("sit 0 1;", 0);
+        fault("seg 0 1;", 0);
+        fault("licks 1;", 0);
+        fault("tocks 1;", 0);
         // A word that is one of them, and what follows it.
         fault("set", 3);
         fault("set ", 4);
@@ -235,6 +246,13 @@ final class CommandsTest {
         fault("late 0 0 0 0;", 11);
         fault("ticks;", 5);
         fault("ticks 1 1;", 8);
+        // Of several faults the first one counts.
+        fault("set 0; x", 5);
+        fault("set ; set ;", 4);
+        fault("se 0 1; set", 0);
+        fault("ticks 0001; x;", 9);
+        fault("ticks 1 1; x;", 8);
+        fault("x; set 0", 0);
         // Nothing is done, though what is before the fault could be.
         fault("set 0 1; set 0 2; set 0", 23);
         fault("join 0 0 0; quit 0; x", 20);
@@ -242,6 +260,28 @@ final class CommandsTest {
         fault("set 9 999; go", 13);
         fault("\u0000", 0);
         fault("set 0 1;\u007f", 8);
+    }
+
+    /** What stood in a longer text that was cleared is no part of the text. */
+    private static void faultsBeforeAnOldText() {
+        String old = "set 0 1;";
+        for (int length = 1; length < old.length(); length++) {
+            CellEvents x = map(old);
+            x.clearCommands();
+            type(x, old.substring(0, length));
+            Due.same("[" + old.substring(0, length) + "]", x.runCommands(), length < 3 ? -10 : -10 - length);
+        }
+        CellEvents y = map("   ;");
+        y.clearCommands();
+        y.type(' ');
+        Due.same("one space", y.runCommands(), 0);
+        CellEvents z = map("ticks 12;");
+        z.clearCommands();
+        type(z, "ticks 1");
+        Due.same("no number of two digits", z.runCommands(), -17);
+        z.type(';');
+        Due.same("one tick", z.runCommands(), 1);
+        Due.same("whole(3)", z.whole(3), 1);
     }
 
     private static void faultInTheLastByte() {

@@ -10,6 +10,8 @@ final class UndoAndDigestTest {
         whatSavesNone();
         changesOfNothingAreSaved();
         restoresAll();
+        restoresDroppedOnes();
+        eventTakenBack();
         digestOfANewObject();
         digestIsThatOfTheValues();
         digestTellsStatesApart();
@@ -144,6 +146,42 @@ final class UndoAndDigestTest {
                 changes[k].on(y);
             }
             sameValues("after " + undone + " undone", values(x), values(y));
+        }
+    }
+
+    private static void restoresDroppedOnes() {
+        CellEvents x = new CellEvents();
+        x.subscribe(0, 2, 5);
+        for (int k = 0; k < 13; k++) {
+            x.publish(5, 2, 0);
+        }
+        x.publish(5, 2, 0);
+        Due.same("dropped", x.subscriber(0, 9), 2);
+        Due.same("undo()", x.undo(), 3);
+        Due.same("dropped", x.subscriber(0, 9), 1);
+        Due.same("whole(10)", x.whole(10), 1);
+        x.pass(1);
+        Due.same("event", x.publish(5, 0, 0), 13);
+        int[] due = {5, 0, 1, 1, 1, 0, 1};
+        for (int what = 0; what < due.length; what++) {
+            Due.same("event(13, " + what + ")", x.event(13, what), due[what]);
+        }
+    }
+
+    /** An event that an undo took back leaves nothing behind for the next one of that number. */
+    private static void eventTakenBack() {
+        CellEvents x = new CellEvents();
+        x.subscribe(0, 0, 5);
+        x.publish(5, 2, 0);
+        x.pass(1);
+        Due.same("delivered", x.event(0, 5), 1);
+        Due.same("undo()", x.undo(), 2);
+        Due.same("not delivered", x.event(0, 5), 0);
+        Due.same("undo()", x.undo(), 1);
+        Due.same("publish", x.publish(9, 1, 0), 0);
+        int[] due = {9, 1, 0, 0, 1, 0, 1};
+        for (int what = 0; what < due.length; what++) {
+            Due.same("event(0, " + what + ")", x.event(0, what), due[what]);
         }
     }
 

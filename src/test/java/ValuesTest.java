@@ -11,6 +11,7 @@ final class ValuesTest {
         stayValues();
         waitingValues();
         eventValues();
+        eventOfEight();
         leafValues();
         wholeValues();
         readingChangesNothing();
@@ -104,6 +105,20 @@ final class ValuesTest {
         rows("event(2", new int[] {10, 1, 0, 0, 4, 4, 0}, what -> x.event(2, what));
         rows("event(3", new int[] {4, 1, 1, 1, 7, 0, 2}, what -> x.event(3, what));
         rows("event(4", new int[] {6, 2, 2, 3, 5, 0, 2}, what -> x.event(4, what));
+    }
+
+    private static void eventOfEight() {
+        CellEvents x = new CellEvents();
+        for (int s = 0; s < 8; s++) {
+            x.subscribe(s % 3, 2, 4 + s % 2);
+        }
+        x.publish(4, 1, 0);
+        rows("event(0", new int[] {4, 1, 0, 0, 255, 0, 8}, what -> x.event(0, what));
+        x.pass(1);
+        // Two in each of the leaves 4 and 5.
+        rows("event(0", new int[] {4, 1, 0, 0, 255, 15, 4}, what -> x.event(0, what));
+        x.leave(7);
+        rows("event(0", new int[] {4, 1, 0, 0, 255, 15, 3}, what -> x.event(0, what));
     }
 
     private static void leafValues() {
