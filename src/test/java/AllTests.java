@@ -13,6 +13,13 @@ public final class AllTests {
         run("what if", WhatIfTest::run);
         run("commands", CommandsTest::run);
         run("undo and digest", UndoAndDigestTest::run);
+        run("bounds of promises 1 to 6", SubscriberBoundsTest::run);
+        run("bounds of promises 7 and 8", EventBoundsTest::run);
+        run("bounds of promises 9 to 14", ValueBoundsTest::run);
+        run("bounds of promises 15 to 20", WhatIfBoundsTest::run);
+        run("bounds of promises 21 to 23", TextBoundsTest::run);
+        run("bounds of promises 24 and 25", UndoBoundsTest::run);
+        run("quotes", Quotes::check);
         run("model", ModelTest::run);
         System.out.println("answers: " + Due.passed + " as due, " + Due.failed + " not");
         System.exit(Due.failed == 0 ? 0 : 1);
