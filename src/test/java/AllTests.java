@@ -20,6 +20,7 @@ public final class AllTests {
         run("bounds of promises 21 to 23", TextBoundsTest::run);
         run("bounds of promises 24 and 25", UndoBoundsTest::run);
         run("quotes", Quotes::check);
+        run("README.md", ReadmeTest::run);
         run("model", ModelTest::run);
         System.out.println("answers: " + Due.passed + " as due, " + Due.failed + " not");
         System.exit(Due.failed == 0 ? 0 : 1);
